@@ -1,0 +1,64 @@
+/** Compares answers with those that are due, and ends a test. */
+final class Check {
+    /** A call whose answer, or whose exception, is looked at. */
+    interface Call {
+        Object answer();
+    }
+
+    private static int wrong = 0;
+    private static int right = 0;
+
+    private Check() {
+    }
+
+    /** The answer of a call, or throws. and the name of its exception. */
+    static String told(Call call) {
+        try {
+            return String.valueOf(call.answer());
+        } catch (RuntimeException e) {
+            return "throws." + e.getClass().getSimpleName();
+        }
+    }
+
+    static void due(String what, Object want, Call call) {
+        same(what, String.valueOf(want), told(call));
+    }
+
+    static void same(String what, String want, String got) {
+        if (want.equals(got)) {
+            right++;
+            return;
+        }
+        wrong++;
+        if (wrong <= 40) {
+            System.out.println(what + " answered " + got + ", due is " + want);
+        }
+    }
+
+    static void noSuch(String what, Call call) {
+        due(what, "throws.NoSuchElementException", call);
+    }
+
+    static void illegal(String what, Call call) {
+        due(what, "throws.IllegalArgumentException", call);
+    }
+
+    static void state(String what, Call call) {
+        due(what, "throws.IllegalStateException", call);
+    }
+
+    static void unsupported(String what, Call call) {
+        due(what, "throws.UnsupportedOperationException", call);
+    }
+
+    static void arithmetic(String what, Call call) {
+        due(what, "throws.ArithmeticException", call);
+    }
+
+    static void end() {
+        System.out.println(right + " answers are as due, " + wrong + " are not");
+        if (wrong != 0 || right == 0) {
+            System.exit(1);
+        }
+    }
+}
