@@ -1052,13 +1052,13 @@ public final class Simplespan {
         }
 
         void shortenOver(int middle) {
+            if (middle < 0 || middle >= size) {
+                return;
+            }
             for (int from = 0; from < size; from++) {
-                int first = between(from, middle);
-                if (first == NONE) {
-                    continue;
-                }
-                for (int to = 0; to < size; to++) {
-                    int second = between(middle, to);
+                int first = distances[from * MOST_EVENTS + middle];
+                for (int to = 0; first != NONE && to < size; to++) {
+                    int second = distances[middle * MOST_EVENTS + to];
                     if (second != NONE && first + second < distances[from * MOST_EVENTS + to]) {
                         distances[from * MOST_EVENTS + to] = first + second;
                     }
@@ -1407,11 +1407,12 @@ public final class Simplespan {
         }
 
         void addValues() {
-            for (int from = 0; from < plan.events; from++) {
-                for (int middle = 0; middle < plan.events; middle++) {
-                    int first = valueOf(from, middle);
-                    for (int to = 0; first != NONE && to < plan.events; to++) {
-                        int second = valueOf(middle, to);
+            int size = Math.min(plan.events, MOST_EVENTS);
+            for (int from = 0; from < size; from++) {
+                for (int middle = 0; middle < size; middle++) {
+                    int first = values[from * MOST_EVENTS + middle];
+                    for (int to = 0; first != NONE && to < size; to++) {
+                        int second = values[middle * MOST_EVENTS + to];
                         if (second != NONE) {
                             findValue(from, to, first + second);
                         }

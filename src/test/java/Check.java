@@ -35,6 +35,23 @@ final class Check {
         }
     }
 
+    /** A call that throws this, and changes nothing that the object tells. */
+    static void refused(String what, Class<? extends RuntimeException> exception, Simplespan x, Call call) {
+        String before = Snapshot.of(x);
+        due(what, "throws." + exception.getSimpleName(), call);
+        same(what + " changes nothing", before, Snapshot.of(x));
+    }
+
+    /** A new plan with so many events beside the event 0. */
+    static Simplespan plan(int events) {
+        Simplespan x = new Simplespan();
+        for (int i = 1; i <= events; i++) {
+            int number = i;
+            due("addEvent", number, () -> x.addEvent());
+        }
+        return x;
+    }
+
     static void noSuch(String what, Call call) {
         due(what, "throws.NoSuchElementException", call);
     }
