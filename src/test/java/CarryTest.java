@@ -7,6 +7,7 @@ public final class CarryTest {
         windows();
         starts();
         startWaits();
+        shortWait();
         ends();
         passes();
         lateStart();
@@ -84,6 +85,10 @@ public final class CarryTest {
         Check.due("uppermost less than 0", -5, () -> y.uppermost(1));
         Check.due("lowest", 0, () -> y.lowest(1));
         Check.due("reason", 'l', () -> y.reason(1));
+        Simplespan z = Check.plan(2);
+        z.bound(2, 1, -50, 0);
+        Check.due("events that have not started tell nothing", 0, () -> z.lowest(2));
+        Check.due("nor here", 9999, () -> z.uppermost(1));
     }
 
     private static void starts() {
@@ -124,6 +129,16 @@ public final class CarryTest {
         Check.due("start", 29, () -> x.start(3));
         Check.due("end", 9, () -> x.end(0));
         Check.due("startedAt", 29, () -> x.startedAt(2));
+    }
+
+    private static void shortWait() {
+        Simplespan x = Check.plan(2);
+        x.addSpan(0, 1, 1, 3);
+        x.bound(2, 1, 2, 0);
+        Check.due("a wait of 1", 1, () -> x.waitFor(2, 0));
+        Check.due("counts", 'w', () -> x.reason(2));
+        x.pass(1);
+        Check.due("it is over", '-', () -> x.reason(2));
     }
 
     private static void ends() {

@@ -173,6 +173,16 @@ public final class ControlTest {
         Check.due("waitFor", 15, () -> x.waitFor(2, 0));
         Check.due("the span's own", 6, () -> x.waitFor(3, 1));
         Check.unsupported("none", () -> x.waitFor(4, 0));
+        Simplespan y = Check.plan(3);
+        y.addSpan(0, 1, 3, 20);
+        y.addSpan(2, 3, 4, 6);
+        y.bound(3, 1, 20, 0);
+        Check.due("an upper edge of 0 goes across, and is freed", 4, () -> y.reduced(2, 0));
+        Simplespan z = Check.plan(3);
+        z.addSpan(0, 1, 3, 20);
+        z.addSpan(2, 3, 4, 6);
+        z.bound(3, 1, 21, 0);
+        Check.due("an upper edge of 1 does not", 7, () -> z.reduced(2, 0));
     }
 
     /** An upper edge that is not less than the least length less than 0 is a value. */

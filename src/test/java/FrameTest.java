@@ -49,7 +49,10 @@ public final class FrameTest {
         back(x, "bound", () -> x.bound(0, 3, 25, 0));
         back(x, "dropBound", () -> x.dropBound(0));
         back(x, "addSpan", () -> x.addSpan(0, 4, 3, 9));
-        back(x, "observe", () -> x.observe(2, false));
+        for (int k = 2; k <= 4; k++) {
+            int label = k;
+            back(x, "observe", () -> x.observe(label, false));
+        }
         back(x, "play", () -> x.play(0));
         back(x, "start", () -> x.start(1));
         back(x, "pass", () -> x.pass(5));

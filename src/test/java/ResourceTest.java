@@ -174,6 +174,14 @@ public final class ResourceTest {
         Check.due("level", 1, () -> x.level());
         Check.due("the greatest slack", 3, () -> x.firstTime(1));
         Check.due("the other one stays", 0, () -> x.firstTime(3));
+        Simplespan z = two();
+        z.bound(0, 2, 8, 0);
+        z.bound(0, 4, 5, 0);
+        Check.due("slack", -3, () -> z.slack(0, 1));
+        Check.due("slack", 0, () -> z.slack(1, 0));
+        Check.due("a slack of 0 is enough", 1, () -> z.level());
+        Check.due("firstTime", 3, () -> z.firstTime(1));
+        Check.due("firstTime", 8, () -> z.firstTime(2));
         Simplespan y = two();
         y.bound(0, 2, 5, 0);
         y.bound(0, 4, 5, 0);

@@ -196,6 +196,22 @@ public final class ToldTest {
         y.observe(2, false);
         Check.due("choose", 2, () -> y.choose());
         Check.due("labels", "FfTT", () -> "" + y.labelOf(1) + y.labelOf(2) + y.labelOf(3) + y.labelOf(4));
+        Simplespan z = Check.plan(1);
+        z.bound(1, 0, -20, 0);
+        for (int k = 1; k <= 4; k++) {
+            int label = k;
+            Check.due("bound", label, () -> z.bound(0, 1, 10, label));
+        }
+        Check.due("all are false", 0, () -> z.choose());
+        Check.due("labels", "FFFF", () -> "" + z.labelOf(1) + z.labelOf(2) + z.labelOf(3) + z.labelOf(4));
+        z.bound(0, 1, 30, -4);
+        Check.due("the label 4 is false", 30, () -> z.distance(0, 1));
+        z.dropBound(4);
+        Check.due("the label 4 can be true", 1, () -> z.choose());
+        Check.due("labels", "FFFT", () -> "" + z.labelOf(1) + z.labelOf(2) + z.labelOf(3) + z.labelOf(4));
+        Check.unsupported("a bound of a false label", () -> z.distance(0, 1));
+        z.bound(0, 1, 40, 4);
+        Check.due("a bound of the label 4", 40, () -> z.distance(0, 1));
     }
 
     private static void isPossible() {
