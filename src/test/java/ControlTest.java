@@ -201,20 +201,33 @@ public final class ControlTest {
         Check.due("the upper edge is -4", 3, () -> y.reduced(2, 0));
     }
 
-    /** Found by a search for many rounds; the oracle in this folder answers the same. */
+    /** Found by a search for many rounds; the oracle answers the same. */
     private static void manyRounds() {
-        Simplespan x = Check.plan(7);
-        int[][] spans = {{4, 7, 139, 174}, {0, 2, 38, 131}, {5, 6, 27, 127}};
-        int[][] bounds = {{2, 4, 207}, {0, 1, 173}, {4, 0, 47}, {1, 0, 335}, {7, 6, -343}, {4, 2, 168},
-            {3, 4, 347}, {0, 1, -324}, {3, 4, -495}, {0, 5, 152}};
+        Simplespan x = Check.plan(9);
+        Oracle oracle = new Oracle();
+        for (int i = 1; i < 10; i++) {
+            oracle.addEvent();
+        }
+        int[][] spans = {{2, 6, 48, 131}, {3, 8, 2, 200}, {5, 9, 8, 188}};
+        int[][] bounds = {{5, 6, 51}, {8, 9, 142}, {8, 4, 6}, {9, 7, 18}, {6, 0, -251}, {7, 8, 215}, {1, 3, -208},
+            {4, 7, 43}, {0, 4, 332}, {1, 3, 140}, {5, 7, 137}, {5, 2, 342}, {3, 0, 71}, {3, 0, -33}, {5, 3, 205},
+            {4, 0, 500}, {4, 6, 324}, {6, 0, 244}, {5, 0, 197}, {4, 8, 195}};
         for (int[] row : spans) {
             x.addSpan(row[0], row[1], row[2], row[3]);
+            oracle.addSpan(row[0], row[1], row[2], row[3]);
         }
         for (int[] row : bounds) {
             x.bound(row[0], row[1], row[2], 0);
+            oracle.bound(row[0], row[1], row[2], 0);
         }
-        Check.due("rounds", 8, () -> x.rounds());
+        Check.due("rounds", 17, () -> x.rounds());
         Check.due("isSeen", true, () -> x.isSeen());
+        Check.same("rounds", "17", Check.told(() -> oracle.rounds()));
+        for (int i = 0; i < 100; i++) {
+            int from = i / 10;
+            int to = i % 10;
+            Check.same("reduced", Check.told(() -> oracle.reduced(from, to)), Check.told(() -> x.reduced(from, to)));
+        }
     }
 
     private static void badly() {
