@@ -8,6 +8,8 @@ import java.util.TreeMap;
 /** Long runs of calls by a fixed row of numbers, each answered by the class and by the oracle. */
 public final class AgainstOracleTest {
     private static final int CALLS = 512;
+    /** So many runs are watched for refused calls that change something; that takes time. */
+    private static final int WATCHED = 60;
     private static long seed;
 
     private static int below(int n) {
@@ -31,8 +33,13 @@ public final class AgainstOracleTest {
         final StringBuilder calls = new StringBuilder();
         final int tightness = from(1, 60);
         final boolean isLoose = oneIn(2);
+        final boolean isWatched;
         int events = 1;
         boolean isRight = true;
+
+        Run(boolean isWatched) {
+            this.isWatched = isWatched;
+        }
     }
 
     private static final Map<String, Method> OURS = new TreeMap<>();
@@ -77,7 +84,7 @@ public final class AgainstOracleTest {
     }
 
     private static void go(int number) {
-        Run run = new Run();
+        Run run = new Run(number < WATCHED);
         int events = from(2, 9);
         for (int i = 0; i < events; i++) {
             addEvent(run);
@@ -215,7 +222,11 @@ public final class AgainstOracleTest {
             return "throws";
         }
         String want = told(THEIRS.get(name), run.oracle, row);
+        String before = run.isWatched ? State.of(run.x) : "";
         String got = told(OURS.get(name), run.x, row);
+        if (run.isWatched && got.startsWith("throws.")) {
+            Check.same(name + " throws and changes nothing", before, State.of(run.x));
+        }
         String text = name + java.util.Arrays.toString(row);
         run.calls.append("  ").append(text).append(" = ").append(want).append('\n');
         run.isRight = want.equals(got);

@@ -31,15 +31,27 @@ final class Check {
         }
         wrong++;
         if (wrong <= 40) {
-            System.out.println(what + " answered " + got + ", due is " + want);
+            System.out.println(what + " answered " + unlike(got, want) + ", due is " + unlike(want, got));
         }
     }
 
-    /** A call that throws this, and changes nothing that the object tells. */
+    /** A text, or of one with many lines the first one that the other text has not. */
+    private static String unlike(String text, String other) {
+        String[] lines = text.split("\n");
+        String[] others = other.split("\n");
+        for (int i = 0; i < lines.length && lines.length > 1; i++) {
+            if (i >= others.length || !lines[i].equals(others[i])) {
+                return lines[i];
+            }
+        }
+        return text;
+    }
+
+    /** A call that throws this, and changes nothing that the object tells or holds. */
     static void refused(String what, Class<? extends RuntimeException> exception, Simplespan x, Call call) {
-        String before = Snapshot.of(x);
+        String before = Snapshot.of(x) + State.of(x);
         due(what, "throws." + exception.getSimpleName(), call);
-        same(what + " changes nothing", before, Snapshot.of(x));
+        same(what + " changes nothing", before, Snapshot.of(x) + State.of(x));
     }
 
     /** A new plan with so many events beside the event 0. */

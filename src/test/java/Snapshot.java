@@ -1,4 +1,4 @@
-/** All that an object tells without a change, as one text. */
+/** All that an object tells without a change, and all that its plan holds, as one text. */
 final class Snapshot {
     private Snapshot() {
     }
@@ -10,7 +10,7 @@ final class Snapshot {
         ofPlan(x, text);
         ofEvents(x, text);
         ofResource(x, text);
-        return text.toString();
+        return text.append(State.ofPlan(x)).toString();
     }
 
     private static void add(StringBuilder text, String name, Check.Call call) {
