@@ -25,6 +25,7 @@ public final class EdgeControlTest {
         valuesOverTheEventZero();
         roundsByOldValues();
         roundsEndBadly();
+        sixtyRounds();
         reducedEdges();
         reducedOrder();
         waitEdges();
@@ -392,6 +393,17 @@ public final class EdgeControlTest {
         y.bound(1, 2, 6, 0);
         Check.due("the second round is counted", 2, () -> y.rounds());
         Check.due("isSeen", false, () -> y.isSeen());
+    }
+
+    /** No plan is known that comes near so many rounds (NOTES.md), so the number itself is looked at. */
+    private static void sixtyRounds() {
+        try {
+            java.lang.reflect.Field most = Simplespan.class.getDeclaredField("MOST_ROUNDS");
+            most.setAccessible(true);
+            Check.same("if 60 rounds changed something, they end badly", "60", String.valueOf(most.get(null)));
+        } catch (ReflectiveOperationException e) {
+            Check.same("the limit of rounds", "60", "not found");
+        }
     }
 
     // Promise 20

@@ -9,6 +9,7 @@ public final class EdgeFrameTest {
         refusedIsTakenBackToo();
         innerFrames();
         framesAtTheLimits();
+        askingChangesNothing();
         calls512();
         Check.end();
     }
@@ -170,6 +171,30 @@ public final class EdgeFrameTest {
             x.takeBack();
         }
         Check.same("as it was", before, Snapshot.of(x));
+    }
+
+    private static void askingChangesNothing() {
+        Simplespan x = full();
+        Check.Call[] asked = {() -> x.labelOf(1), () -> x.isPossible(15, 0), () -> x.isPossible(0, 15),
+            () -> x.isConsistent(), () -> x.distance(0, 1), () -> x.distanceByRounds(1, 0), () -> x.isDirect(0, 1),
+            () -> x.isWeak(), () -> x.isStrong(), () -> x.isSeen(), () -> x.rounds(), () -> x.reduced(0, 1),
+            () -> x.waitFor(1, 0), () -> x.failure(0), () -> x.playedAt(0), () -> x.isKept(), () -> x.reason(3),
+            () -> x.lowest(3), () -> x.uppermost(3), () -> x.now(), () -> x.startedAt(0), () -> x.firstTime(3),
+            () -> x.use(0), () -> x.peak(), () -> x.peakSet(), () -> x.slack(0, 1), () -> x.costOf(3, 0),
+            () -> x.cost(), () -> x.heldShare(), () -> x.meanSlack()};
+        String before = Snapshot.of(x) + State.of(x);
+        for (int i = 0; i < asked.length; i++) {
+            String answer = Check.told(asked[i]);
+            Check.same("the call " + i + " answers " + answer, "false", "" + answer.startsWith("throws."));
+            Check.same("the call " + i + " answers so once more", answer, Check.told(asked[i]));
+            Check.same("the call " + i + " changes nothing", before, Snapshot.of(x) + State.of(x));
+        }
+        x.bound(0, 1, 4, 0);
+        x.bound(1, 0, -5, 0);
+        before = Snapshot.of(x) + State.of(x);
+        Check.due("conflictSize", 2, () -> x.conflictSize());
+        Check.due("conflictAt", 4, () -> x.conflictAt(1));
+        Check.same("the conflict changes nothing", before, Snapshot.of(x) + State.of(x));
     }
 
     /** The 512th call answers as the first one would. */
