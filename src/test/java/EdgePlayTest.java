@@ -1,3 +1,5 @@
+import java.util.Random;
+
 /** Promises 22 to 25: a test for each sentence that names a boundary case. */
 public final class EdgePlayTest {
     public static void main(String[] args) {
@@ -17,6 +19,7 @@ public final class EdgePlayTest {
         notStartedGoesAhead();
         boundsThatHold();
         keptForAllSums();
+        seenIsKept();
         playedAtEvents();
         playedAtLast();
         playedAtInFrames();
@@ -294,6 +297,46 @@ public final class EdgePlayTest {
         }
         Simplespan y = new Simplespan();
         Check.due("without a span there is one sum", true, () -> y.isKept());
+    }
+
+    /** Whatever nature picks, a plan that can be controlled as it is seen keeps each bound: none is ahead of 0. */
+    private static void seenIsKept() {
+        Random random = new Random(5);
+        int seen = 0;
+        int mustSee = 0;
+        for (int i = 0; i < 20000; i++) {
+            Simplespan x = anyPlan(random);
+            if (x.isSeen()) {
+                seen++;
+                mustSee += x.isStrong() ? 0 : 1;
+                int number = i;
+                Check.due("isKept of the plan " + number, true, () -> x.isKept());
+            }
+        }
+        Check.same("enough plans that can be controlled", "true", String.valueOf(seen > 5000 && mustSee > 10));
+    }
+
+    private static Simplespan anyPlan(Random random) {
+        Simplespan x = new Simplespan();
+        int events = 2 + random.nextInt(6);
+        for (int e = 1; e <= events; e++) {
+            x.addEvent();
+            x.bound(e, 0, 0, 0);
+        }
+        for (int s = 0; s < 1 + random.nextInt(3); s++) {
+            int from = random.nextInt(events);
+            int to = from + 1 + random.nextInt(events - from);
+            int least = 1 + random.nextInt(8);
+            int greatest = least + random.nextInt(8);
+            Check.told(() -> x.addSpan(from, to, least, greatest));
+        }
+        for (int b = random.nextInt(8); b > 0; b--) {
+            int from = random.nextInt(events + 1);
+            int to = random.nextInt(events + 1);
+            int most = random.nextInt(30) - 10;
+            Check.told(() -> x.bound(from, to, most, 0));
+        }
+        return x;
     }
 
     // Promise 24

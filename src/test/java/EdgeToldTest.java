@@ -24,6 +24,8 @@ public final class EdgeToldTest {
         labelLetters();
         chooseNone();
         chooseEachWay();
+        chooseTheLowerLabel();
+        chooseOneForTwo();
         chooseObserved();
         chooseIsInAll();
         possibleEdges();
@@ -432,6 +434,53 @@ public final class EdgeToldTest {
             Check.refused("now none is left", Edge.UNSUPPORTED, x, () -> x.choose());
             letters("the choice stays", want.toString(), x);
         }
+    }
+
+    /** Two bounds, one of each label, that cannot both be kept. */
+    private static void excludeBoth(Simplespan x, int one, int other) {
+        x.bound(0, 1, 4, one);
+        x.bound(1, 2, 0, other);
+    }
+
+    private static Simplespan lateSecond() {
+        Simplespan x = Check.plan(2);
+        x.bound(2, 0, -5, 0);
+        return x;
+    }
+
+    private static void chooseTheLowerLabel() {
+        for (int i = 1; i <= 4; i++) {
+            for (int j = i + 1; j <= 4; j++) {
+                Simplespan x = lateSecond();
+                excludeBoth(x, j, i);
+                Check.due("all but one", 3, () -> x.choose());
+                StringBuilder want = new StringBuilder("TTTT");
+                want.setCharAt(j - 1, 'F');
+                letters("of " + i + " and " + j + " the lower one is true", want.toString(), x);
+                x.observe(j, true);
+                Check.due("all but one", 3, () -> x.choose());
+                want.setCharAt(j - 1, 't');
+                want.setCharAt(i - 1, 'F');
+                letters("of " + i + " and " + j + " the one that was observed is", want.toString(), x);
+            }
+        }
+    }
+
+    /** The label 1 true goes ahead of more labels true. */
+    private static void chooseOneForTwo() {
+        Simplespan x = lateSecond();
+        excludeBoth(x, 1, 2);
+        x.bound(1, 2, 0, 3);
+        x.bound(1, 2, 0, 4);
+        Check.due("one is true", 1, () -> x.choose());
+        letters("the label 1", "TFFF", x);
+        Simplespan y = lateSecond();
+        excludeBoth(y, 2, 3);
+        y.bound(1, 2, 0, 4);
+        y.bound(0, 2, 4, 1);
+        Check.due("one is true", 1, () -> y.choose());
+        letters("the label 2", "FTFF", y);
+        Check.due("though two could be", true, () -> y.isPossible(12, 3));
     }
 
     private static void chooseObserved() {
