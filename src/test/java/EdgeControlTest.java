@@ -11,6 +11,7 @@ public final class EdgeControlTest {
         strongAtTwoSpans();
         strongOverAChain();
         strongWhenEventsHaveStarted();
+        strongAheadOfTheMinuteZero();
         strongLooksAtBoundsThatHold();
         judgedWhateverIsAsked();
         upperEdgeAtFirst();
@@ -186,6 +187,22 @@ public final class EdgeControlTest {
         judged("it started at the minute 10", x, false, false, false);
         x.end(0);
         judged("the end was seen", x, true, true, true);
+    }
+
+    /** Fixed times are told nothing of but the bounds: they may be ahead of the minute 0. */
+    private static void strongAheadOfTheMinuteZero() {
+        Simplespan x = Check.plan(3);
+        x.bound(0, 1, -5, 0);
+        judged("1 comes at least 5 minutes ahead of 0", x, true, true, true);
+        x.addSpan(1, 2, 3, 10);
+        judged("and so does a span", x, true, true, true);
+        x.bound(3, 2, -1, 0);
+        x.bound(2, 3, 8, 0);
+        judged("3 at the minute of 1 and 11", x, true, true, true);
+        x.bound(0, 2, -1, 0);
+        judged("and the end ahead of 0: 1 at -11", x, true, true, true);
+        judgedWith("1 at most 11 ahead of 0", x, 1, 0, 11, "yyy");
+        judgedWith("1 at most 10 ahead of 0", x, 1, 0, 10, "nnn");
     }
 
     private static void strongLooksAtBoundsThatHold() {

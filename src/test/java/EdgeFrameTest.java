@@ -11,6 +11,7 @@ public final class EdgeFrameTest {
         framesAtTheLimits();
         askingChangesNothing();
         calls512();
+        changes512();
         Check.end();
     }
 
@@ -218,5 +219,23 @@ public final class EdgeFrameTest {
             calls++;
         }
         Check.due("the 512th call", 0, () -> x.play(0));
+    }
+
+    /** 512 calls, each of which changes something. */
+    private static void changes512() {
+        Simplespan x = Check.plan(8);
+        int calls = 8;
+        while (calls < 512) {
+            Check.due("open, call " + calls, 1, () -> x.open());
+            Check.due("bound, call " + calls, 0, () -> x.bound(0, 8, 7, 0));
+            Check.due("addSpan, call " + calls, 0, () -> x.addSpan(6, 7, 2, 3));
+            Check.due("observe, call " + calls, 1, () -> x.observe(1, true));
+            Check.due("start, call " + calls, 0, () -> x.start(6));
+            Check.due("pass, call " + calls, 2, () -> x.pass(2));
+            Check.due("end, call " + calls, 2, () -> x.end(0));
+            Check.due("takeBack, call " + calls, 0, () -> x.takeBack());
+            calls += 8;
+        }
+        Check.same("calls", "512", "" + calls);
     }
 }

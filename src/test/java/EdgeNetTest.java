@@ -14,6 +14,7 @@ public final class EdgeNetTest {
         longestWays();
         directEdges();
         directThird();
+        directThirdOfAll();
         conflictEdges();
         conflictByRisingNumbers();
         conflictOfAll();
@@ -270,6 +271,26 @@ public final class EdgeNetTest {
         y.bound(1, 2, 0, 0);
         y.bound(2, 1, 0, 0);
         Check.due("one at the same time is", false, () -> y.isDirect(0, 1));
+    }
+
+    /** Each event can be the third one of two others. */
+    private static void directThirdOfAll() {
+        for (int i = 0; i < 720; i++) {
+            int from = i / 72;
+            int to = (from + 1 + i / 8 % 9) % 10;
+            int third = i % 8;
+            third += third >= Math.min(from, to) ? 1 : 0;
+            third += third >= Math.max(from, to) ? 1 : 0;
+            Simplespan x = Check.plan(9);
+            x.bound(from, third, 3, 0);
+            x.bound(third, to, 4, 0);
+            String what = " from " + from + " over " + third + " to " + to;
+            distances("distance" + what, x, from, to, 7);
+            Check.due("isDirect" + what, false, () -> x.isDirect(from, to));
+            x.bound(from, to, 6, 0);
+            distances("distance, shorter" + what, x, from, to, 6);
+            Check.due("isDirect, shorter" + what, true, () -> x.isDirect(from, to));
+        }
     }
 
     // Promises 14 and 15

@@ -24,6 +24,9 @@ public final class EdgeResourceTest {
         levelTies();
         levelGoesOn();
         levelUntil40Bounds();
+        levelBehindTheMinute999();
+        levelHasNoLabel();
+        levelWhenNotSeen();
         levelRefused();
         setCostEdges();
         setCostOrder();
@@ -433,6 +436,67 @@ public final class EdgeResourceTest {
         Check.due("there are 40 bounds", 0, () -> z.level());
         z.dropBound(39);
         Check.due("a dropped one counts", 0, () -> z.level());
+    }
+
+    /** No greatest minute is told for a peak. */
+    private static void levelBehindTheMinute999() {
+        Simplespan x = row(5, 6);
+        x.addEvent();
+        x.bound(5, 0, -500, 0);
+        x.addEvent();
+        x.bound(6, 5, -500, 0);
+        x.bound(1, 6, 0, 0);
+        x.bound(3, 6, -1, 0);
+        Check.due("a peak behind the minute 999", 1001, () -> x.peak());
+        Check.due("its set", 3, () -> x.peakSet());
+        Check.refused("of which use() is not told", Edge.ILLEGAL, x, () -> x.use(1001));
+        Check.due("it is levelled", 1, () -> x.level());
+        Check.due("the activity 1 behind the activity 0", 1005, () -> x.firstTime(3));
+        Check.refused("there is no peak", Edge.NONE, x, () -> x.peak());
+    }
+
+    /** The bound has no label: it holds whatever labels are. */
+    private static void levelHasNoLabel() {
+        for (int k = 1; k <= 4; k++) {
+            int label = k;
+            Simplespan x = two(20, 20);
+            x.observe(k, k % 2 == 0);
+            Check.due("level", 1, () -> x.level());
+            Check.due("its bound holds", 1.0f, () -> x.heldShare());
+            x.bound(2, 3, -1, label);
+            x.bound(2, 3, -1, -label);
+            Check.due("it holds with all labels open", true, () -> x.isPossible(0, 0));
+            Check.due("it holds with a true one", false, () -> x.isPossible(1 << (label - 1), 0));
+            Check.due("it holds with a false one", false, () -> x.isPossible(0, 1 << (label - 1)));
+        }
+        Simplespan y = two(20, 20);
+        y.choose();
+        Check.due("level", 1, () -> y.level());
+        Check.due("its bound holds with chosen labels", 1.0f, () -> y.heldShare());
+        y.bound(2, 3, -1, 0);
+        Check.due("it holds with open ones", false, () -> y.isPossible(0, 0));
+    }
+
+    /** It asks for a consistent net alone. */
+    private static void levelWhenNotSeen() {
+        Simplespan x = two(20, 20);
+        x.addEvent();
+        x.addSpan(0, 5, 3, 10);
+        x.bound(0, 5, 9, 0);
+        Check.due("it cannot be controlled as it is seen", false, () -> x.isSeen());
+        Check.due("it can be levelled", 1, () -> x.level());
+        Simplespan y = two(20, 20);
+        y.pass(3);
+        y.start(1);
+        Check.due("the event 1 has started at the minute 3", 3, () -> y.firstTime(1));
+        Check.due("both are on at the minute 3", 3, () -> y.peak());
+        Check.due("level", 1, () -> y.level());
+        Check.due("the activity 1 behind the activity 0", 8, () -> y.firstTime(3));
+        Simplespan z = two(20, 20);
+        z.pass(9);
+        z.start(3);
+        Check.due("no peak: the activity 0 ends ahead of the minute 9", 0, () -> z.level());
+        Check.due("the activity 0 as it was", 0, () -> z.firstTime(1));
     }
 
     private static void levelRefused() {

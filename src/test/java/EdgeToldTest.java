@@ -317,6 +317,9 @@ public final class EdgeToldTest {
         x.start(2);
         Check.refused("a lesser number, and it has started", Edge.ILLEGAL, x, () -> x.addSpan(2, 1, 1, 1));
         Check.refused("a length, and it has started", Edge.ILLEGAL, x, () -> x.addSpan(2, 3, 1, 201));
+        Check.refused("a length, and its end has started", Edge.ILLEGAL, x, () -> x.addSpan(0, 2, 0, 1));
+        Check.refused("a lesser number, and its end has started", Edge.ILLEGAL, x, () -> x.addSpan(3, 2, 1, 1));
+        Check.refused("no such event, and its end has started", Edge.NONE, x, () -> x.addSpan(-1, 2, 1, 1));
         x.addSpan(0, 3, 1, 1);
         x.addSpan(0, 4, 1, 1);
         Check.refused("no such event, and 3 spans", Edge.NONE, x, () -> x.addSpan(0, 6, 1, 1));
